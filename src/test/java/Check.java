@@ -1,0 +1,56 @@
+/** Compares answers with the ones that are due and tells how it went. */
+final class Check {
+    interface Call {
+        long answer();
+    }
+
+    private static int done;
+    private static int wrong;
+
+    private Check() {
+    }
+
+    static void same(String call, long got, long due) {
+        done++;
+        if (got != due) {
+            wrong++;
+            System.out.println(call + " answered " + got + ", due is " + due);
+        }
+    }
+
+    static void same(String call, double got, double due) {
+        done++;
+        if (got != due) {
+            wrong++;
+            System.out.println(call + " answered " + got + ", due is " + due);
+        }
+    }
+
+    static void yes(String what, boolean holds) {
+        same(what, holds ? 1 : 0, 1);
+    }
+
+    /** The digest tells of everything that an object holds, so that it shows whether the call changed anything. */
+    static void refuses(String call, Class<? extends RuntimeException> due, ReefPilot on, Call made) {
+        long before = on.digest();
+        done++;
+        String got;
+        try {
+            got = "answered " + made.answer();
+        } catch (RuntimeException thrown) {
+            got = thrown.getClass() == due ? "" : "threw " + thrown;
+        }
+        if (!got.isEmpty()) {
+            wrong++;
+            System.out.println(call + " " + got + ", due is " + due.getName());
+        }
+        same(call + ", the digest behind it", on.digest(), before);
+    }
+
+    static void end(String test) {
+        System.out.println(test + ": " + done + " answers looked at, " + wrong + " wrong");
+        if (wrong != 0 || done == 0) {
+            System.exit(1);
+        }
+    }
+}
