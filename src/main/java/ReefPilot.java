@@ -37,6 +37,8 @@ public final class ReefPilot {
     private final Coast ahead;
     private final Soundings soundings;
     private final Spread spread;
+    /** The depth that the ships count on, by the chart or as it is; NONE where they may not go at all. */
+    private final int[] water;
 
     public ReefPilot() {
         table = new Table();
@@ -44,6 +46,7 @@ public final class ReefPilot {
         ahead = new Coast();
         soundings = new Soundings();
         spread = new Spread();
+        water = new int[CELLS];
     }
 
     // ---- coast and months
@@ -103,17 +106,20 @@ public final class ReefPilot {
 
     public int way(int draught, boolean byChart) throws IllegalArgumentException {
         needWithin(draught, 0, GREATEST_DRAUGHT);
-        int start = byChart ? startByChart(draught) : startByDepth(coast, draught);
+        countOn(byChart);
+        int start = startOfShortestWay(draught);
         return start == NONE ? NONE : spread.stepsTo(start);
     }
 
     public int deepest(boolean byChart) {
-        return byChart ? deepestByChart() : deepestByDepth(coast);
+        countOn(byChart);
+        return greatestDraught();
     }
 
     public int harbours(int draught) throws IllegalArgumentException {
         needWithin(draught, 0, GREATEST_DRAUGHT);
-        openDepths(coast, draught);
+        countOn(false);
+        openWater(draught);
         spread.goFromRow(0);
         int reached = 0;
         for (int place = SHORE_ROW; place < CELLS; place++) {
@@ -126,7 +132,8 @@ public final class ReefPilot {
 
     public int pilot(int draught) throws IllegalArgumentException {
         needWithin(draught, 0, GREATEST_DRAUGHT);
-        int start = startByChart(draught);
+        countOn(true);
+        int start = startOfShortestWay(draught);
         return start == NONE ? NONE : leadFrom(start, draught);
     }
 
@@ -152,7 +159,8 @@ public final class ReefPilot {
         needWithin(draught, 0, GREATEST_DRAUGHT);
         ahead.becomeLike(coast);
         for (int months = 0; months <= MONTHS_AHEAD; months++) {
-            if (startByDepth(ahead, draught) == NONE) {
+            countOnDepths(ahead);
+            if (startOfShortestWay(draught) == NONE) {
                 return months;
             }
             ahead.letMonthGo(table);
@@ -170,7 +178,9 @@ public final class ReefPilot {
         switch (what) {
             case 0: return ahead.heads();
             case 1: return reefsOn(ahead);
-            default: return deepestByDepth(ahead);
+            default:
+                countOnDepths(ahead);
+                return greatestDraught();
         }
     }
 
@@ -287,7 +297,7 @@ public final class ReefPilot {
         }
     }
 
-    /** The depth that is safe by the chart; NONE without a sounding, which no draught can pass. */
+    /** The depth that is safe by the chart; NONE without a sounding, which lets no draught pass. */
     private int safeDepth(int place) {
         int noted = soundings.noted(place);
         if (noted == NONE) {
@@ -332,28 +342,39 @@ public final class ReefPilot {
 
     // ---- ways of the ships
 
-    private void openDepths(Coast where, int draught) {
-        spread.clear();
-        for (int place = 0; place < CELLS; place++) {
-            spread.setOpen(place, where.depthOf(place) > draught);
+    private void countOn(boolean byChart) {
+        if (byChart) {
+            countOnChart();
+        } else {
+            countOnDepths(coast);
         }
     }
 
-    private int startByDepth(Coast where, int draught) {
-        openDepths(where, draught);
-        return startOfShortestWay();
+    private void countOnChart() {
+        for (int place = 0; place < CELLS; place++) {
+            water[place] = safeDepth(place);
+        }
     }
 
-    private int startByChart(int draught) {
+    private void countOnDepths(Coast where) {
+        for (int place = 0; place < CELLS; place++) {
+            water[place] = where.depthOf(place);
+        }
+    }
+
+    private void openWater(int draught) {
         spread.clear();
         for (int place = 0; place < CELLS; place++) {
-            spread.setOpen(place, safeDepth(place) > draught);
+            spread.setOpen(place, water[place] > draught);
         }
-        return startOfShortestWay();
     }
 
-    /** Measures from the shore, so that the steps to a cell are the cells still ahead of a ship there. */
-    private int startOfShortestWay() {
+    /**
+     * The cell of the row 0 from which the way is shortest; NONE without a way. It measures from the shore, so that
+     * the steps to a cell are the cells still ahead of a ship there.
+     */
+    private int startOfShortestWay(int draught) {
+        openWater(draught);
         spread.goFromRow(SHORE_ROW);
         int start = NONE;
         for (int place = 0; place < SIDE; place++) {
@@ -365,18 +386,9 @@ public final class ReefPilot {
         return start;
     }
 
-    private int deepestByDepth(Coast where) {
+    private int greatestDraught() {
         for (int draught = GREATEST_DRAUGHT; draught >= 0; draught--) {
-            if (startByDepth(where, draught) != NONE) {
-                return draught;
-            }
-        }
-        return NONE;
-    }
-
-    private int deepestByChart() {
-        for (int draught = GREATEST_DRAUGHT; draught >= 0; draught--) {
-            if (startByChart(draught) != NONE) {
+            if (startOfShortestWay(draught) != NONE) {
                 return draught;
             }
         }

@@ -131,7 +131,7 @@ public final class FaceTest {
         while (made.find()) {
             String line = made.group(1);
             Check.yes("new is for fields and exceptions: " + line,
-                line.contains("private final") || line.matches("\\s*(table|coast|ahead|soundings|spread) = ")
+                line.contains("private final") || line.matches("\\s*(table|coast|ahead|soundings|spread|water) = ")
                     || line.contains("throw"));
         }
     }

@@ -324,6 +324,10 @@ public final class PromisesTest {
         Check.same("deepest of none", on.deepest(false), -1);
         on.pass(7);
         Check.same("the chart is old", on.deepest(true), 16);
+        on.pass(31);
+        Check.same("38 months: a depth of 1 is safe", on.deepest(true), 0);
+        on.pass(2);
+        Check.same("40 months: nothing is safe", on.deepest(true), -1);
         setAllGround(on, 40);
         Check.same("deepest of all", on.deepest(false), 39);
         soundAll(on);
@@ -646,6 +650,13 @@ public final class PromisesTest {
         }
         Check.same("the most reefs, but one without ground", on.count(2), 40);
         Check.same("each of one", on.count(3), 1);
+        ReefPilot alone = new ReefPilot();
+        alone.plant(0, 0, 5);
+        counts("the first cell alone", alone, new int[] {0, 1, 1, 1, 5, 0, 0, 0});
+        ReefPilot last = new ReefPilot();
+        last.plant(8, 8, 20);
+        last.sound(8, 8);
+        counts("the last cell alone", last, new int[] {0, 1, 1, 1, 20, 1, 0, 1});
     }
 
     private static void counts(String what, ReefPilot on, int[] due) {
