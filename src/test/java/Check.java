@@ -6,24 +6,37 @@ final class Check {
 
     private static int done;
     private static int wrong;
+    private static String about = "";
 
     private Check() {
+    }
+
+    /** What the answers looked at from now on belong to; it is told with each that is wrong. */
+    static void about(String what) {
+        about = what.isEmpty() ? "" : what + ": ";
+    }
+
+    static int done() {
+        return done;
     }
 
     static void same(String call, long got, long due) {
         done++;
         if (got != due) {
-            wrong++;
-            System.out.println(call + " answered " + got + ", due is " + due);
+            isWrong(call + " answered " + got + ", due is " + due);
         }
     }
 
     static void same(String call, double got, double due) {
         done++;
         if (got != due) {
-            wrong++;
-            System.out.println(call + " answered " + got + ", due is " + due);
+            isWrong(call + " answered " + got + ", due is " + due);
         }
+    }
+
+    private static void isWrong(String text) {
+        wrong++;
+        System.out.println(about + text);
     }
 
     static void yes(String what, boolean holds) {
@@ -41,8 +54,7 @@ final class Check {
             got = thrown.getClass() == due ? "" : "threw " + thrown;
         }
         if (!got.isEmpty()) {
-            wrong++;
-            System.out.println(call + " " + got + ", due is " + due.getName());
+            isWrong(call + " " + got + ", due is " + due.getName());
         }
         same(call + ", the digest behind it", on.digest(), before);
     }

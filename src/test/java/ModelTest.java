@@ -1,7 +1,7 @@
 import java.util.Random;
 import java.util.function.LongSupplier;
 
-/** Runs of 512 calls, drawn by fixed seeds, on the class and on the model of the document beside it. */
+/** Runs of 512 calls, the digests among them, drawn by fixed seeds, on the class and on the model beside it. */
 public final class ModelTest {
     private static final int RUNS = 150;
     private static final int CALLS = 512;
@@ -45,8 +45,8 @@ public final class ModelTest {
         }
         while (call < CALLS) {
             callOne(call++);
-            if (call % 16 == 0) {
-                Check.same("run " + run + ", the digest behind call " + call, on.digest(), model.digest());
+            if (call % 16 == 15) {
+                Check.same("run " + run + ", call " + call++ + ", digest", on.digest(), model.digest());
             }
         }
     }

