@@ -36,11 +36,16 @@ final class Document {
         }
     }
 
+    /** The lines of a section; none where the document is missing. */
+    List<String> lines(String section) {
+        return sections.getOrDefault(section, List.of());
+    }
+
     /** Whether a section says these words within one line; they are then no longer among those without a test. */
     boolean says(String section, String words) {
         quoted.computeIfAbsent(section, named -> new ArrayList<>()).add(words);
         return sections.isEmpty()
-            || sections.getOrDefault(section, List.of()).stream().anyMatch(line -> line.contains(words));
+            || lines(section).stream().anyMatch(line -> line.contains(words));
     }
 
     /** The sentences of the promises, of Terms and of the first section that name a boundary case and were not quoted. */

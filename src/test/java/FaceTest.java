@@ -45,7 +45,9 @@ public final class FaceTest {
     public static void main(String[] args) throws IOException {
         face();
         insides();
-        source(Files.readString(Path.of("src/main/java/ReefPilot.java")));
+        String text = Files.readString(Path.of("src/main/java/ReefPilot.java"));
+        source(text);
+        asTheDocumentDeclares(text, new Document());
         Check.end("FaceTest");
     }
 
@@ -133,6 +135,25 @@ public final class FaceTest {
             Check.yes("new is for fields and exceptions: " + line,
                 line.contains("private final") || line.matches("\\s*(table|coast|ahead|soundings|spread|water) = ")
                     || line.contains("throw"));
+        }
+    }
+
+    /** The declarations are the document's to the word, in its order and under the headings that it tells. */
+    private static void asTheDocumentDeclares(String text, Document document) {
+        int behind = 0;
+        for (String line : document.lines("The public face")) {
+            if (line.startsWith("public ")) {
+                int at = text.indexOf(line.replaceAll(";$", " {"));
+                Check.yes("declared, and in this order: " + line, at >= behind);
+                behind = at;
+            }
+        }
+        for (String line : document.lines("Terms")) {
+            Matcher heading = Pattern.compile("Ahead of the calls `(\\w+)`.* the interface says: (.*)\\.").matcher(line);
+            if (heading.matches()) {
+                String calls = "// " + heading.group(2) + "\\s*public \\w+ " + heading.group(1) + "\\(";
+                Check.yes(heading.group(2) + " stands ahead of " + heading.group(1), Pattern.compile(calls).matcher(text).find());
+            }
         }
     }
 }
